@@ -207,7 +207,8 @@ public final class BurlPipes {
     }
 
     private int mostInWorld(int world) {
-        return mostWith(board.cracks | worldCracks[world]);
+        saw.seeOnly(board.cracks | worldCracks[world]);
+        return saw.weigh(0, 0, board.width, board.height);
     }
 
     private int late() {
@@ -349,7 +350,7 @@ public final class BurlPipes {
         switch (what) {
             case 0: return pipes.lots[p];
             case 1: return pipes.grades[p];
-            case 2: return pipes.agree[p] ? 1 : 0;
+            case 2: return pipes.agree[p];
             case 3: return pipes.stamps[p];
             case 4: return pipes.drifts[p];
             case 5: return pipes.names[p];
@@ -454,9 +455,9 @@ public final class BurlPipes {
         }
         switch (what) {
             case 0: return pipes.howMany(l);
-            case 1: return pipes.sumOfDrifts(l);
-            case 2: return pipes.sumOfGrades(l);
-            case 3: return pipes.howManyAgree(l);
+            case 1: return pipes.sumIn(pipes.drifts, l);
+            case 2: return pipes.sumIn(pipes.grades, l);
+            case 3: return pipes.sumIn(pipes.agree, l);
             case 4: return pipes.isOff(l, held.limit) ? 1 : 0;
             case 5: return pipes.longestRun(l);
             default: return BAD_LOT;
@@ -809,12 +810,12 @@ public final class BurlPipes {
             }
             for (int wide = 1; wide <= w; wide++) {
                 int suiting = shapesOfSize[squareAt(wide - 1, high - 1)];
+                int place = placeOf(x, top, wide, high);
                 for (int left = x; left + wide <= x + w; left++) {
                     blocks[left] &= columns[left + wide - 1];
-                    int value = suiting == 0 ? 0 : bestPipe(suiting, blocks[left]);
-                    value = Math.max(value, bestDown(left, top, wide, high));
-                    value = Math.max(value, bestAcross(left, top, wide, high));
-                    best[placeOf(left, top, wide, high)] = value;
+                    int pipe = suiting == 0 ? 0 : bestPipe(suiting, blocks[left]);
+                    best[place] = Math.max(pipe, Math.max(bestDown(place, wide), bestAcross(place, high)));
+                    place++;
                 }
             }
         }
@@ -844,24 +845,26 @@ public final class BurlPipes {
             return value;
         }
 
-        private int bestDown(int x, int y, int w, int h) {
+        private int bestDown(int place, int w) {
             int value = 0;
-            int left = placeOf(x, y, 1, h);
-            int right = placeOf(x + 1, y, w - 1, h);
+            int left = place - (w - 1) * WIDER;
+            int right = place - WIDER + 1;
             for (int k = 1; k < w; k++) {
-                value = Math.max(value, best[left] + best[right]);
+                int sum = best[left] + best[right];
+                value = sum > value ? sum : value;
                 left += WIDER;
                 right += 1 - WIDER;
             }
             return value;
         }
 
-        private int bestAcross(int x, int y, int w, int h) {
+        private int bestAcross(int place, int h) {
             int value = 0;
-            int upper = placeOf(x, y, w, 1);
-            int lower = placeOf(x, y + 1, w, h - 1);
+            int upper = place - (h - 1) * HIGHER;
+            int lower = place - HIGHER + SIDE;
             for (int k = 1; k < h; k++) {
-                value = Math.max(value, best[upper] + best[lower]);
+                int sum = best[upper] + best[lower];
+                value = sum > value ? sum : value;
                 upper += HIGHER;
                 lower += SIDE - HIGHER;
             }
@@ -1135,7 +1138,7 @@ public final class BurlPipes {
     private static final class Pipes {
         final int[] lots = new int[MOST_PIPES];
         final int[] grades = new int[MOST_PIPES];
-        final boolean[] agree = new boolean[MOST_PIPES];
+        final int[] agree = new int[MOST_PIPES];
         final int[] stamps = new int[MOST_PIPES];
         final int[] drifts = new int[MOST_PIPES];
         final int[] names = new int[MOST_PIPES];
@@ -1154,7 +1157,7 @@ public final class BurlPipes {
             int greatest = Math.max(a, Math.max(b, c));
             int least = Math.min(a, Math.min(b, c));
             grades[p] = a + b + c - greatest - least;
-            agree[p] = greatest - least <= 1;
+            agree[p] = greatest - least <= 1 ? 1 : 0;
         }
 
         boolean has(int p) {
@@ -1171,44 +1174,28 @@ public final class BurlPipes {
             return n;
         }
 
-        int sumOfDrifts(int l) {
+        int sumIn(int[] row, int l) {
             int sum = 0;
             for (int p = 0; p < size; p++) {
                 if (lots[p] == l) {
-                    sum += drifts[p];
+                    sum += row[p];
                 }
             }
             return sum;
         }
 
-        int sumOfGrades(int l) {
-            int sum = 0;
-            for (int p = 0; p < size; p++) {
-                if (lots[p] == l) {
-                    sum += grades[p];
-                }
-            }
-            return sum;
-        }
-
-        int howManyAgree(int l) {
-            int n = 0;
-            for (int p = 0; p < size; p++) {
-                if (lots[p] == l && agree[p]) {
-                    n++;
-                }
-            }
-            return n;
+        private int distanceOff(int l) {
+            return Math.abs(sumIn(drifts, l));
         }
 
         boolean isOff(int l, int limit) {
             int n = howMany(l);
-            return n >= 2 && Math.abs(sumOfDrifts(l)) > limit * n;
+            return n >= 2 && distanceOff(l) > limit * n;
         }
 
-        // The two shares are compared without a division: that of l is a sum over howMany(l) pipes.
+        // Crosswise, so that what comes on each pipe is compared without a division.
         boolean isWorse(int l, int other) {
-            return Math.abs(sumOfDrifts(l)) * howMany(other) > Math.abs(sumOfDrifts(other)) * howMany(l);
+            return distanceOff(l) * howMany(other) > distanceOff(other) * howMany(l);
         }
 
         int longestRun(int l) {

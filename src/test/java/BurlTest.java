@@ -198,6 +198,7 @@ public final class BurlTest {
         C.due("9: one great one", x.most(1, 1, 3, 3), 24);
         C.due("9: one small one", x.most(1, 1, 3, 2), 10);
         C.due("9: too narrow", x.most(0, 0, 1, 4), 0);
+        C.due("9: again all of it", x.most(0, 0, 4, 4), 40);
         x.crack(1, 1, true);
         C.due("9: a crack takes one of four", x.most(0, 0, 4, 4), 30);
         C.due("9: or all of the great one", x.most(1, 1, 3, 3), 10);

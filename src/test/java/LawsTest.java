@@ -81,6 +81,13 @@ public final class LawsTest {
         laws("limit -5;", -16, 1);
         laws("limit 5 \u00a0;", -18, 1);
         laws("x", -10, 1);
+        laws("xtamp 1 1800 1900;", -10, 1);
+        laws(";".repeat(200), -10, 2);
+        laws("limit 5;" + "A".repeat(192), -18, 2);
+        laws("limit 5;" + " ".repeat(191) + "0", -209, 2);
+        laws("limit 5;" + " ".repeat(187) + "limit", -205, 4);
+        laws("bar 0 1;".repeat(25), 25, 0);
+        laws("bar01;bar 0 1;".repeat(14), -15, 2);
         laws("limit 5;  y", -20, 1);
     }
 
@@ -116,6 +123,8 @@ public final class LawsTest {
         laws("bar 3 3;", -16, 3);
         laws("least A 6;", -18, 3);
         laws("stamp 1 1800 1900; stamp 1 x", -35, 4);
+        laws("stamp 1 1800 1900; stamp 2 1800 1900; stamp 1 x", -54, 4);
+        laws("least A 1;least B 1;least A", -36, 4);
         laws("limit 5; limit", -19, 4);
         laws("limit 5; limit ?", -19, 4);
         laws("least B 0;least B", -26, 4);
@@ -168,6 +177,9 @@ public final class LawsTest {
         C.due("30: excludes", x.stamp(7, 2), 33);
         C.due("30: the other way round", x.stamp(0, 2), 128);
         C.due("30: the other way round", x.stamp(5, 2), 128);
+        Check.write(x, "bar 1 0;bar 1 2;bar 3 1;bar 1 4;");
+        x.laws();
+        C.due("30: all of several bars", x.stamp(1, 2), 29);
         C.due("30: bad", x.stamp(8, 0), -1);
         C.due("30: bad", x.stamp(-1, 0), -1);
         C.due("30: bad", x.stamp(0, 3), -1);

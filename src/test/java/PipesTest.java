@@ -9,6 +9,7 @@ public final class PipesTest {
         years();
         dated();
         lot();
+        runs();
         worst();
         C.end();
     }
@@ -122,7 +123,7 @@ public final class PipesTest {
         C.due("34: lot -1", x.lot(-1, 0), -10000);
         C.due("34: what 6", x.lot(0, 6), -10000);
         C.due("34: what -1", x.lot(0, -1), -10000);
-        int[] drifts = {4, 1, 0, 3, -1, -2, -3, -1, 5};
+        int[] drifts = {4, 1, 0, 3, 7, -1, -2, -3, -4};
         for (int i = 0; i < drifts.length; i++) {
             x.pipe(2, 1, 2, i % 3, 0, drifts[i], 0);
             if (i == 5) {
@@ -130,7 +131,7 @@ public final class PipesTest {
             }
         }
         C.due("34: pipes", x.lot(2, 0), 9);
-        C.due("34: drifts", x.lot(2, 1), 6);
+        C.due("34: drifts", x.lot(2, 1), 5);
         C.due("34: grades", x.lot(2, 2), 3 * (1 + 1 + 2));
         C.due("34: agree", x.lot(2, 3), 6);
         C.due("34: not off", x.lot(2, 4), 0);
@@ -147,6 +148,19 @@ public final class PipesTest {
         x.pipe(1, 0, 0, 0, 0, -50, 0);
         C.due("34: a sum below 0", x.lot(1, 1), -40);
         C.due("34: without its sign", x.lot(1, 4), 1);
+    }
+
+    private static void runs() {
+        int[][] drifts = {{0, 0, 0}, {1, 0, 1, 1}, {-1, -1, 0, -1}, {1, -1, 1, -1}, {-1, 1, 1, 1, -1}, {-2, -2, 0, -2, -2, -2}};
+        int[] due = {0, 2, 2, 1, 3, 3};
+        for (int i = 0; i < due.length; i++) {
+            BurlPipes x = new BurlPipes();
+            for (int drift : drifts[i]) {
+                x.pipe(0, 0, 0, 0, 0, drift, 0);
+            }
+            C.due("34: run of row " + i, x.lot(0, 5), due[i]);
+            C.due("34: no run elsewhere", x.lot(1, 5), 0);
+        }
     }
 
     private static void worst() {
@@ -172,5 +186,11 @@ public final class PipesTest {
         Check.write(x, "limit 50;");
         x.laws();
         C.due("35: none is off", x.worst(), -4);
+        BurlPipes y = new BurlPipes();
+        for (int lot = 5; lot >= 0; lot -= 5) {
+            y.pipe(lot, 0, 0, 0, 0, 10, 0);
+            y.pipe(lot, 0, 0, 0, 0, 10, 0);
+            C.due("35: the first and the last lot", y.worst(), lot);
+        }
     }
 }

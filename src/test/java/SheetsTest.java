@@ -37,6 +37,9 @@ public final class SheetsTest {
         C.due("36: the row stays", x.draw(0, 1, 0), 1);
         C.due("36: a new row", x.sheet(0, 1, 64), 1);
         C.due("36: of cells 0", x.draw(0, 1, 0), 0);
+        C.due("36: of cells 0", x.grain(0, 0, 5), 0);
+        C.due("36: the last cell too", x.draw(0, 1, 63), 0);
+        C.due("36: the last cell too", x.grain(0, 0, 5), 0);
     }
 
     private static void lay() {

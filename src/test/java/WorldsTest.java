@@ -85,6 +85,15 @@ public final class WorldsTest {
         C.due("16: greatest", x.choose(5), 2);
         x.undo();
         C.due("16: worlds stay when it is undone", x.choose(0), 31);
+        x.doubt(0, 1, 0, true);
+        C.due("16: the least is that of the first world", x.choose(4), 1);
+        x.doubt(0, 1, 0, false);
+        x.doubt(0, 0, 0, false);
+        x.doubt(2, 1, 0, true);
+        C.due("16: the greatest is that of the first world", x.choose(5), 11);
+        C.due("16: the least is that of the last one", x.choose(4), 2);
+        x.doubt(0, 0, 0, true);
+        x.doubt(2, 1, 0, false);
         x.shape(3, 1, 21, 0, false);
         C.due("16: all of it fits in one world alone", x.choose(3), 101);
         x.drop();

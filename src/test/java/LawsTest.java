@@ -83,6 +83,8 @@ public final class LawsTest {
         laws("x", -10, 1);
         laws("xtamp 1 1800 1900;", -10, 1);
         laws(";".repeat(200), -10, 2);
+        laws(" ".repeat(199) + ";", -209, 2);
+        laws(" ".repeat(200), 0, 0);
         laws("limit 5;" + "A".repeat(192), -18, 2);
         laws("limit 5;" + " ".repeat(191) + "0", -209, 2);
         laws("limit 5;" + " ".repeat(187) + "limit", -205, 4);

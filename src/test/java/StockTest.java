@@ -9,6 +9,7 @@ public final class StockTest {
         order();
         filled();
         filledLeastBlocks();
+        filledByALongChain();
         deliver();
         C.end();
     }
@@ -139,6 +140,28 @@ public final class StockTest {
         z.order(1, 0, 1);
         C.due("21: it leaves the fine block for the poor order", z.filled(0), 101);
         C.due("21: so order 0 gets the second", z.filled(10), 1);
+    }
+
+    // Orders 0 to 6 do with two blocks each, order 7 with block 0 alone: all have to move on for it.
+    private static void filledByALongChain() {
+        BurlPipes x = new BurlPipes();
+        for (int i = 0; i < 8; i++) {
+            x.store(1, 1, 9 - i, i);
+            x.shape(1, 1, 1, i == 7 ? 9 : 8 - i, false);
+        }
+        int sum = 0;
+        for (int i = 0; i < 8; i++) {
+            int pay = i == 7 ? 1 : 100 - i;
+            x.order(i, i == 7 ? 0 : i, pay);
+            sum += pay;
+        }
+        C.due("21: all of them", x.filled(0), sum);
+        for (int i = 0; i < 8; i++) {
+            C.due("21: block of order " + i, x.filled(10 + i), i == 7 ? 0 : i + 1);
+        }
+        C.due("22: all go", x.deliver(), sum);
+        C.due("22: no block is left", x.count(7), 0);
+        C.due("22: no order is left", x.count(8), 0);
     }
 
     private static void deliver() {

@@ -2,7 +2,7 @@ import java.util.Random;
 
 /** Long runs of calls on the class and on PlainModel: each answer must be the same. The runs are always the same. */
 public final class RandomRunsTest {
-    private static final int CALLS = 512;
+    private static final int MOST_CALLS = 512, MOST_AT_ONCE = 40;
     private static final int[] FAR = {Integer.MIN_VALUE, Integer.MAX_VALUE, -1000, 1000, -10, 100, 13, 65};
 
     private final Check check = new Check("RandomRunsTest");
@@ -12,6 +12,7 @@ public final class RandomRunsTest {
     private final PlainModel m = new PlainModel();
     private final StringBuilder log = new StringBuilder();
     private final int[] lanes = {0, 0, 0, 0};
+    private int calls = 0;
     private int wide = 4;
     private int high = 4;
 
@@ -21,7 +22,7 @@ public final class RandomRunsTest {
     }
 
     public static void main(String[] args) {
-        int runs = args.length > 0 ? Integer.parseInt(args[0]) : 300;
+        int runs = args.length > 0 ? Integer.parseInt(args[0]) : 500;
         int clean = 0;
         for (int seed = 0; seed < runs; seed++) {
             clean += new RandomRunsTest(seed).run(seed) ? 1 : 0;
@@ -33,7 +34,7 @@ public final class RandomRunsTest {
     }
 
     private boolean run(int seed) {
-        for (int n = 0; n < CALLS && check.isClean(); n++) {
+        while (calls <= MOST_CALLS - MOST_AT_ONCE && check.isClean()) {
             call();
         }
         if (!check.isClean()) {
@@ -64,6 +65,7 @@ public final class RandomRunsTest {
             call.append(i == 0 ? "" : ", ").append(args[i]);
         }
         log.append(call).append(')');
+        calls++;
         check.due(call + ")", got, want);
     }
 

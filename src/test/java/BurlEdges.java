@@ -208,17 +208,7 @@ final class BurlEdges {
 
     private static void runShapes(Edges e) {
         e.test(5, "SHAPES (8) are numbered as they come:", BurlEdges::eightShapes);
-        e.test(5, "a WIDTH, a HEIGHT (1 to 8),", t -> {
-            t.beside(1, 8, -1, (x, v) -> x.shape(v, 1, 1, 0, false));
-            t.beside(1, 8, -1, (x, v) -> x.shape(1, v, 1, 0, true));
-            t.taken(State.NEW, 1, 8, 0, (x, v) -> x.shape(v, 1, 1, 0, false));
-            t.taken(State.NEW, 1, 8, 0, (x, v) -> x.shape(1, v, 1, 0, false));
-            BurlPipes x = new BurlPipes();
-            x.shape(8, 8, 1, 0, false);
-            t.due("it does not fit on a small burl", x.open(), 0);
-            x.burl(8, 8);
-            t.due("it fits on the greatest", x.fits(0, 0, 8, 8, 0), 1);
-        });
+        e.test(5, "a WIDTH, a HEIGHT (1 to 8),", BurlEdges::shapeSides);
         e.test(5, "a PRICE (1 to 500),", t -> {
             t.beside(1, 500, -1, (x, v) -> x.shape(1, 1, v, 0, false));
             t.taken(State.NEW, 1, 500, 0, (x, v) -> x.shape(1, 1, v, 0, false));
@@ -238,6 +228,18 @@ final class BurlEdges {
         });
         e.test(6, "The latest SHAPE goes: its number.", BurlEdges::allShapesGo);
         e.test(6, "NONE; STATE: an ORDER is for it.", BurlEdges::dropRefused);
+    }
+
+    private static void shapeSides(Edges e) {
+        e.beside(1, 8, -1, (x, v) -> x.shape(v, 1, 1, 0, false));
+        e.beside(1, 8, -1, (x, v) -> x.shape(1, v, 1, 0, true));
+        e.taken(State.NEW, 1, 8, 0, (x, v) -> x.shape(v, 1, 1, 0, false));
+        e.taken(State.NEW, 1, 8, 0, (x, v) -> x.shape(1, v, 1, 0, false));
+        BurlPipes x = new BurlPipes();
+        x.shape(8, 8, 1, 0, false);
+        e.due("it does not fit on a small burl", x.open(), 0);
+        x.burl(8, 8);
+        e.due("it fits on the greatest", x.fits(0, 0, 8, 8, 0), 1);
     }
 
     private static void eightShapes(Edges e) {
@@ -347,17 +349,19 @@ final class BurlEdges {
             t.refused(State.NEW, -1, x -> x.fits(0, 0, 1, 1, 0));
         });
         e.test(8, "OPEN SHAPES of THE BURL: those that some BLOCK FITS.", BurlEdges::openInACorner);
-        e.test(8, "OPEN SHAPES (bits).", t -> {
-            t.due("no shapes", new BurlPipes().open(), 0);
-            BurlPipes x = new BurlPipes();
-            for (int s = 0; s < 8; s++) {
-                x.shape(4, 4, 1, 0, false);
-                t.due("all of " + (s + 1), x.open(), (2 << s) - 1);
-            }
-            x.grain(3, 3, 0);
-            x.crack(3, 3, true);
-            t.due("none of eight", x.open(), 0);
-        });
+        e.test(8, "OPEN SHAPES (bits).", BurlEdges::openBits);
+    }
+
+    private static void openBits(Edges e) {
+        e.due("no shapes", new BurlPipes().open(), 0);
+        BurlPipes x = new BurlPipes();
+        for (int s = 0; s < 8; s++) {
+            x.shape(4, 4, 1, 0, false);
+            e.due("all of " + (s + 1), x.open(), (2 << s) - 1);
+        }
+        x.grain(3, 3, 0);
+        x.crack(3, 3, true);
+        e.due("none of eight", x.open(), 0);
     }
 
     private static void noPart(Edges e, State state) {
@@ -415,6 +419,14 @@ final class BurlEdges {
     }
 
     private static void openInACorner(Edges e) {
+        BurlPipes row = new BurlPipes();
+        row.burl(8, 1);
+        row.shape(1, 8, 1, 0, true);
+        row.shape(1, 8, 1, 0, false);
+        row.shape(8, 1, 1, 0, false);
+        e.due("a row fits one that is turned", row.open(), 5);
+        row.burl(1, 8);
+        e.due("a column", row.open(), 3);
         int[][] corners = {{0, 0}, {6, 0}, {0, 6}, {6, 6}};
         for (int[] at : corners) {
             BurlPipes x = new BurlPipes();
@@ -436,34 +448,38 @@ final class BurlEdges {
 
     private static void runActs(Edges e) {
         e.test(13, "ACTS that can be undone (the latest 8):", BurlEdges::latestEight);
-        e.test(13, "crack(), grain() that were not refused,", t -> {
-            BurlPipes x = new BurlPipes();
-            x.crack(4, 0, true);
-            x.crack(0, -1, false);
-            x.grain(0, 4, 1);
-            x.grain(0, 0, 10);
-            t.due("refused ones", x.undo(), -4);
-            x.crack(3, 3, false);
-            t.due("a crack() that changed nothing", x.count(9), 1);
-            x.grain(3, 3, 0);
-            t.due("a grain() that changed nothing", x.count(9), 2);
-            x.grain(3, 3, 10);
-            t.due("a refused one behind them", x.undo(), 1);
-        });
+        e.test(13, "crack(), grain() that were not refused,", BurlEdges::refusedAreNoActs);
         e.test(13, "draw() that came (all of it one ACT);", BurlEdges::drawIsOneAct);
-        e.test(13, "burl() leaves none.", t -> {
-            BurlPipes x = State.FULL.make();
-            t.due("a burl refused", x.burl(9, 9), -1);
-            t.due("leaves all", x.count(9), 8);
-            x.burl(8, 8);
-            t.due("none", x.count(9), 0);
-            t.due("none to undo", x.undo(), -4);
-            x.crack(7, 7, true);
-            t.due("one again", x.undo(), 0);
-            t.due("none behind it", x.undo(), -4);
-        });
+        e.test(13, "burl() leaves none.", BurlEdges::burlLeavesNone);
         e.test(13, "The latest ACT on THE BURL is undone: how many more can be.", BurlEdges::undoneOneByOne);
         e.test(13, "NONE.", t -> t.refused(State.NEW, -4, BurlPipes::undo, BurlPipes::undo));
+    }
+
+    private static void refusedAreNoActs(Edges e) {
+        BurlPipes x = new BurlPipes();
+        x.crack(4, 0, true);
+        x.crack(0, -1, false);
+        x.grain(0, 4, 1);
+        x.grain(0, 0, 10);
+        e.due("refused ones", x.undo(), -4);
+        x.crack(3, 3, false);
+        e.due("a crack() that changed nothing", x.count(9), 1);
+        x.grain(3, 3, 0);
+        e.due("a grain() that changed nothing", x.count(9), 2);
+        x.grain(3, 3, 10);
+        e.due("a refused one behind them", x.undo(), 1);
+    }
+
+    private static void burlLeavesNone(Edges e) {
+        BurlPipes x = State.FULL.make();
+        e.due("a burl refused", x.burl(9, 9), -1);
+        e.due("leaves all", x.count(9), 8);
+        x.burl(8, 8);
+        e.due("none", x.count(9), 0);
+        e.due("none to undo", x.undo(), -4);
+        x.crack(7, 7, true);
+        e.due("one again", x.undo(), 0);
+        e.due("none behind it", x.undo(), -4);
     }
 
     private static void latestEight(Edges e) {

@@ -28,7 +28,7 @@ final class Edges {
     }
 
     void test(int promise, String words, Consumer<Edges> body) {
-        title = promise + " \"" + words + "\"";
+        title = "promise " + promise + ", \"" + words + "\"";
         tests++;
         named[promise] = true;
         holds("stands in the document", document.quote(promise, words) || !document.isThere());

@@ -30,17 +30,7 @@ final class PipesEdges {
     }
 
     private static void runPipe(Edges e) {
-        e.test(24, "PIPES (12) are numbered as they come,", t -> {
-            BurlPipes x = new BurlPipes();
-            for (int p = 0; p < 12; p++) {
-                t.due("pipe " + p, x.pipe(0, 0, 0, 0, p, 0, 0), p);
-                t.due("how many", x.count(1), p + 1);
-            }
-            t.due("a thirteenth", x.pipe(0, 0, 0, 0, 0, 0, 0), -3);
-            for (int p = 0; p < 12; p++) {
-                t.due("pipe " + p + " as it came", x.told(p, 3), p);
-            }
-        });
+        e.test(24, "PIPES (12) are numbered as they come,", PipesEdges::twelvePipes);
         e.test(24, "each with a LOT (0 to 5),", t -> {
             t.beside(0, 5, -1, (x, v) -> x.pipe(v, 0, 0, 0, 0, 0, 0));
             t.taken(State.NEW, 0, 5, 0, (x, v) -> x.pipe(v, 0, 0, 0, 0, 0, 0) + x.told(0, 0) - v);
@@ -72,31 +62,27 @@ final class PipesEdges {
         });
     }
 
+    private static void twelvePipes(Edges e) {
+        BurlPipes x = new BurlPipes();
+        for (int p = 0; p < 12; p++) {
+            e.due("pipe " + p, x.pipe(0, 0, 0, 0, p, 0, 0), p);
+            e.due("how many", x.count(1), p + 1);
+        }
+        e.due("a thirteenth", x.pipe(0, 0, 0, 0, 0, 0, 0), -3);
+        for (int p = 0; p < 12; p++) {
+            e.due("pipe " + p + " as it came", x.told(p, 3), p);
+        }
+    }
+
     private static void runTold(Edges e) {
         e.test(25, "GRADE: the middle one of its three.", t -> allGrades(t, 1));
         e.test(25, "They AGREE, if the greatest is at most 1 above the least.", t -> allGrades(t, 2));
-        e.test(25, "SOLD: under its NAME, if its GRADE is at least that one's least GRADE;", t -> {
-            for (int least = 0; least <= 5; least++) {
-                BurlPipes x = withLaws("least A " + least + ";least H " + least + ";");
-                for (int grade = 0; grade <= 5; grade++) {
-                    int p = graded(x, grade, 0);
-                    t.due("grade " + grade + " for " + least, x.told(p, 6), grade >= least ? 0 : -4);
-                    p = graded(x, grade, 7);
-                    t.due("grade " + grade + " for " + least + " of H", x.told(p, 6), grade >= least ? 7 : -4);
-                }
-            }
-        });
+        e.test(25, "SOLD: under its NAME, if its GRADE is at least that one's least GRADE;",
+                PipesEdges::soldUnderItsName);
         e.test(25, "else under the NAME to which that one's seconds go, if there is one, and so on; else not.",
                 PipesEdges::downAllNames);
-        e.test(25, "Of a PIPE: 0 LOT, 1 GRADE, 2 whether they AGREE, 3 STAMPS, 4 DRIFT, 5 NAME,", t -> {
-            BurlPipes x = new BurlPipes();
-            x.pipe(0, 0, 0, 0, 0, -50, 0);
-            x.pipe(5, 5, 5, 5, 255, 50, 7);
-            int[][] due = {{0, 0, 1, 0, -50, 0}, {5, 5, 1, 255, 50, 7}};
-            for (int i = 0; i < 12; i++) {
-                t.due("pipe " + i / 6 + ", " + i % 6, x.told(i / 6, i % 6), due[i / 6][i % 6]);
-            }
-        });
+        e.test(25, "Of a PIPE: 0 LOT, 1 GRADE, 2 whether they AGREE, 3 STAMPS, 4 DRIFT, 5 NAME,",
+                PipesEdges::plainTold);
         e.test(25, "6 the NAME under which it is SOLD (NONE),", t -> {
             BurlPipes x = new BurlPipes();
             t.due("without laws", x.told(graded(x, 0, 7), 6), 7);
@@ -120,6 +106,28 @@ final class PipesEdges {
             t.beside(0, 7, -100, (x, v) -> x.told(0, v));
             t.beside(State.FULL, 0, 7, -100, (x, v) -> x.told(11, v));
         });
+    }
+
+    private static void soldUnderItsName(Edges e) {
+        for (int least = 0; least <= 5; least++) {
+            BurlPipes x = withLaws("least A " + least + ";least H " + least + ";");
+            for (int grade = 0; grade <= 5; grade++) {
+                int p = graded(x, grade, 0);
+                e.due("grade " + grade + " for " + least, x.told(p, 6), grade >= least ? 0 : -4);
+                p = graded(x, grade, 7);
+                e.due("grade " + grade + " for " + least + " of H", x.told(p, 6), grade >= least ? 7 : -4);
+            }
+        }
+    }
+
+    private static void plainTold(Edges e) {
+        BurlPipes x = new BurlPipes();
+        x.pipe(0, 0, 0, 0, 0, -50, 0);
+        x.pipe(5, 5, 5, 5, 255, 50, 7);
+        int[][] due = {{0, 0, 1, 0, -50, 0}, {5, 5, 1, 255, 50, 7}};
+        for (int i = 0; i < 12; i++) {
+            e.due("pipe " + i / 6 + ", " + i % 6, x.told(i / 6, i % 6), due[i / 6][i % 6]);
+        }
     }
 
     private static void allGrades(Edges e, int what) {
@@ -161,39 +169,9 @@ final class PipesEdges {
     private static void runYears(Edges e) {
         e.test(32, "YEARS of a PIPE: those in which all its STAMPS were USED (without STAMPS: 1800 to 2000);",
                 PipesEdges::yearsOfStamps);
-        e.test(32, "YEARS of a PIPE: those in which all its STAMPS were USED", t -> {
-            int[] second = {1899, 1900, 1901, 1902, 1903, 2000};
-            int[] due = {2, 1, 0, 0, 0, 0};
-            for (int i = 0; i < second.length; i++) {
-                BurlPipes x = withLaws("stamp 0 1800 1900;stamp 7 " + second[i] + " 2000;");
-                x.pipe(0, 0, 0, 0, 129, 0, 0);
-                t.due("used until 1900 and from " + second[i] + " on", x.years(0, 0), due[i]);
-                t.due("the first", x.years(0, 1), due[i] == 0 ? -4 : second[i]);
-                t.due("the last", x.years(0, 2), due[i] == 0 ? -4 : 1900);
-                t.due("in 1900", x.dated(1900), due[i] == 0 ? 0 : 1);
-                t.due("in 1901", x.dated(1901), 0);
-            }
-        });
-        e.test(32, "none, if two of its STAMPS EXCLUDE one another.", t -> {
-            BurlPipes x = withLaws("bar 0 7;");
-            int[] stamps = {129, 255, 1, 128, 127, 254};
-            int[] due = {0, 0, 201, 201, 201, 201};
-            for (int p = 0; p < stamps.length; p++) {
-                x.pipe(0, 0, 0, 0, stamps[p], 0, 0);
-                t.due("stamps " + stamps[p], x.years(p, 0), due[p]);
-            }
-            t.due("of all years", x.dated(1800), 4);
-        });
-        e.test(32, "YEARS of a PIPE: how many (what 0), the first (1), the last (2).", t -> {
-            BurlPipes x = withLaws("stamp 0 1800 1800;stamp 1 2000 2000;stamp 2 1801 1999;");
-            int[][] due = {{1, 1800, 1800}, {1, 2000, 2000}, {199, 1801, 1999}, {201, 1800, 2000}};
-            for (int i = 0; i < 4; i++) {
-                x.pipe(0, 0, 0, 0, 1 << i, 0, 0);
-                for (int what = 0; what < 3; what++) {
-                    t.due("years(" + what + ") of stamp " + i, x.years(i, what), due[i][what]);
-                }
-            }
-        });
+        e.test(32, "YEARS of a PIPE: those in which all its STAMPS were USED", PipesEdges::gapsOfYears);
+        e.test(32, "none, if two of its STAMPS EXCLUDE one another.", PipesEdges::excluded);
+        e.test(32, "YEARS of a PIPE: how many (what 0), the first (1), the last (2).", PipesEdges::firstAndLastYear);
         e.test(32, "BAD; NONE (1, 2): there are none.", t -> {
             for (State state : State.values()) {
                 t.beside(state, 0, state.pipes() - 1, -1, (x, v) -> x.years(v, 1));
@@ -207,6 +185,42 @@ final class PipesEdges {
             t.beside(1800, 2000, -1, (x, v) -> x.dated(v));
             t.taken(State.NEW, 1800, 2000, 0, (x, v) -> x.dated(v));
         });
+    }
+
+    private static void gapsOfYears(Edges e) {
+        int[] second = {1899, 1900, 1901, 1902, 1903, 2000};
+        int[] due = {2, 1, 0, 0, 0, 0};
+        for (int i = 0; i < second.length; i++) {
+            BurlPipes x = withLaws("stamp 0 1800 1900;stamp 7 " + second[i] + " 2000;");
+            x.pipe(0, 0, 0, 0, 129, 0, 0);
+            e.due("used until 1900 and from " + second[i] + " on", x.years(0, 0), due[i]);
+            e.due("the first", x.years(0, 1), due[i] == 0 ? -4 : second[i]);
+            e.due("the last", x.years(0, 2), due[i] == 0 ? -4 : 1900);
+            e.due("in 1900", x.dated(1900), due[i] == 0 ? 0 : 1);
+            e.due("in 1901", x.dated(1901), 0);
+        }
+    }
+
+    private static void excluded(Edges e) {
+        BurlPipes x = withLaws("bar 0 7;");
+        int[] stamps = {129, 255, 1, 128, 127, 254};
+        int[] due = {0, 0, 201, 201, 201, 201};
+        for (int p = 0; p < stamps.length; p++) {
+            x.pipe(0, 0, 0, 0, stamps[p], 0, 0);
+            e.due("stamps " + stamps[p], x.years(p, 0), due[p]);
+        }
+        e.due("of all years", x.dated(1800), 4);
+    }
+
+    private static void firstAndLastYear(Edges e) {
+        BurlPipes x = withLaws("stamp 0 1800 1800;stamp 1 2000 2000;stamp 2 1801 1999;");
+        int[][] due = {{1, 1800, 1800}, {1, 2000, 2000}, {199, 1801, 1999}, {201, 1800, 2000}};
+        for (int i = 0; i < 4; i++) {
+            x.pipe(0, 0, 0, 0, 1 << i, 0, 0);
+            for (int what = 0; what < 3; what++) {
+                e.due("years(" + what + ") of stamp " + i, x.years(i, what), due[i][what]);
+            }
+        }
     }
 
     private static void yearsOfStamps(Edges e) {
@@ -252,34 +266,38 @@ final class PipesEdges {
             drifts(x, 3, -49);
             t.due("two pipes", x.lot(3, 4), 1);
         });
-        e.test(34, "have a sum of DRIFTS, without its sign, above LIMIT times how many they are.", PipesEdges::aboveLimit);
-        e.test(34, "RUN of a LOT: the most of its PIPES one behind the other (of that LOT, by numbers) with DRIFTS above 0,"
-                + " or with DRIFTS below 0.", PipesEdges::runs);
-        e.test(34, "Of a LOT: 0 PIPES, 1 the sum of DRIFTS, 2 of GRADES, 3 how many AGREE, 4 whether it is OFF, 5 RUN.", t -> {
-            for (int l = 0; l < 6; l++) {
-                BurlPipes x = new BurlPipes();
-                int[] empty = new int[6];
-                int[] full = {12, -600, 60, 12, 1, 12};
-                for (int what = 0; what < 6; what++) {
-                    t.due("empty lot " + l + ", " + what, x.lot(l, what), empty[what]);
-                }
-                for (int p = 0; p < 12; p++) {
-                    x.pipe(l, 5, 5, 5, 0, -50, 0);
-                }
-                for (int what = 0; what < 6; what++) {
-                    t.due("full lot " + l + ", " + what, x.lot(l, what), full[what]);
-                    t.due("the next lot, " + what, x.lot((l + 1) % 6, what), 0);
-                }
-            }
-            BurlPipes y = new BurlPipes();
-            drifts(y, 0, 50, 50, 50, 50, 50, 50, 50, 50, 50, 50, 50, 50);
-            t.due("the greatest sum", y.lot(0, 1), 600);
-        });
+        e.test(34, "have a sum of DRIFTS, without its sign, above LIMIT times how many they are.",
+                PipesEdges::aboveLimit);
+        e.test(34, "RUN of a LOT: the most of its PIPES one behind the other (of that LOT, by numbers) with DRIFTS"
+                + " above 0, or with DRIFTS below 0.", PipesEdges::runs);
+        e.test(34, "Of a LOT: 0 PIPES, 1 the sum of DRIFTS, 2 of GRADES, 3 how many AGREE, 4 whether it is OFF, 5 RUN.",
+                PipesEdges::wholeLot);
         e.test(34, "BAD -10000.", t -> {
             t.beside(0, 5, -10000, (x, v) -> x.lot(v, 0));
             t.beside(0, 5, -10000, (x, v) -> x.lot(0, v));
             t.beside(0, 5, -10000, (x, v) -> x.lot(5, v));
         });
+    }
+
+    private static void wholeLot(Edges e) {
+        for (int l = 0; l < 6; l++) {
+            BurlPipes x = new BurlPipes();
+            int[] empty = new int[6];
+            int[] full = {12, -600, 60, 12, 1, 12};
+            for (int what = 0; what < 6; what++) {
+                e.due("empty lot " + l + ", " + what, x.lot(l, what), empty[what]);
+            }
+            for (int p = 0; p < 12; p++) {
+                x.pipe(l, 5, 5, 5, 0, -50, 0);
+            }
+            for (int what = 0; what < 6; what++) {
+                e.due("full lot " + l + ", " + what, x.lot(l, what), full[what]);
+                e.due("the next lot, " + what, x.lot((l + 1) % 6, what), 0);
+            }
+        }
+        BurlPipes y = new BurlPipes();
+        drifts(y, 0, 50, 50, 50, 50, 50, 50, 50, 50, 50, 50, 50, 50);
+        e.due("the greatest sum", y.lot(0, 1), 600);
     }
 
     private static void aboveLimit(Edges e) {
@@ -325,40 +343,47 @@ final class PipesEdges {
     }
 
     private static void runWorst(Edges e) {
-        e.test(35, "The LOT that is OFF with the greatest sum of DRIFTS (without sign) by how many PIPES,", t -> {
+        e.test(35, "The LOT that is OFF with the greatest sum of DRIFTS (without sign) by how many PIPES,",
+                PipesEdges::greatestByPipes);
+        e.test(35, "the least number of several.", PipesEdges::leastNumber);
+        e.test(35, "NONE: none is OFF.", PipesEdges::noneIsOff);
+    }
+
+    private static void greatestByPipes(Edges e) {
+        BurlPipes x = new BurlPipes();
+        drifts(x, 0, 50);
+        drifts(x, 1, 11, 0);
+        e.due("one pipe is not off", x.worst(), 1);
+        drifts(x, 2, -6, -6);
+        e.due("12 by two, without sign", x.worst(), 2);
+        drifts(x, 3, 18, 0, 0);
+        e.due("18 by three is no more", x.worst(), 2);
+        drifts(x, 5, 19, 0, 0);
+        e.due("19 by three", x.worst(), 5);
+    }
+
+    private static void leastNumber(Edges e) {
+        for (int first = 0; first < 6; first++) {
             BurlPipes x = new BurlPipes();
-            drifts(x, 0, 50);
-            drifts(x, 1, 11, 0);
-            t.due("one pipe is not off", x.worst(), 1);
-            drifts(x, 2, -6, -6);
-            t.due("12 by two, without sign", x.worst(), 2);
-            drifts(x, 3, 18, 0, 0);
-            t.due("18 by three is no more", x.worst(), 2);
-            drifts(x, 5, 19, 0, 0);
-            t.due("19 by three", x.worst(), 5);
-        });
-        e.test(35, "the least number of several.", t -> {
-            for (int first = 0; first < 6; first++) {
-                BurlPipes x = new BurlPipes();
-                for (int l = 5; l >= first; l--) {
-                    drifts(x, l, l % 2 == 0 ? 6 : -6, l % 2 == 0 ? 6 : -6);
-                    t.due("from lot " + l + " on", x.worst(), l);
-                }
+            for (int l = 5; l >= first; l--) {
+                drifts(x, l, l % 2 == 0 ? 6 : -6, l % 2 == 0 ? 6 : -6);
+                e.due("from lot " + l + " on", x.worst(), l);
             }
-            BurlPipes y = new BurlPipes();
-            drifts(y, 4, 12, 12);
-            drifts(y, 2, 12, 12, 12);
-            t.due("24 by two and 36 by three", y.worst(), 2);
-        });
-        e.test(35, "NONE: none is OFF.", t -> {
-            t.refused(State.NEW, -4, BurlPipes::worst);
-            BurlPipes x = new BurlPipes();
-            drifts(x, 0, 50);
-            drifts(x, 1, 5, 5);
-            drifts(x, 2, 50, -50);
-            t.due("just not", x.worst(), -4);
-            drifts(x, 1, 6);
-            t.due("just so", x.worst(), 1);
-        });
+        }
+        BurlPipes y = new BurlPipes();
+        drifts(y, 4, 12, 12);
+        drifts(y, 2, 12, 12, 12);
+        e.due("24 by two and 36 by three", y.worst(), 2);
+    }
+
+    private static void noneIsOff(Edges e) {
+        e.refused(State.NEW, -4, BurlPipes::worst);
+        BurlPipes x = new BurlPipes();
+        drifts(x, 0, 50);
+        drifts(x, 1, 5, 5);
+        drifts(x, 2, 50, -50);
+        e.due("just not", x.worst(), -4);
+        drifts(x, 1, 6);
+        e.due("just so", x.worst(), 1);
     }
 }

@@ -1,4 +1,4 @@
-/** Boundary cases of promises 9 to 12 and 23: the most that a block brings, its sawing, what a crack or a price does. */
+/** Boundary cases of promises 9 to 12 and 23: what a block brings at most, its sawing, what cracks and prices do. */
 final class SawEdges {
     private SawEdges() { }
 
@@ -17,19 +17,7 @@ final class SawEdges {
     }
 
     private static void runMost(Edges e) {
-        e.test(9, "SAWING a BLOCK: it is a pipe of a SHAPE that it FITS (its PRICE),", t -> {
-            BurlPipes x = board(1, 1);
-            t.due("no shape", x.most(0, 0, 1, 1), 0);
-            x.shape(1, 1, 1, 0, false);
-            t.due("the least price", x.most(0, 0, 1, 1), 1);
-            x.shape(1, 1, 500, 0, false);
-            t.due("the greatest price", x.most(0, 0, 1, 1), 500);
-            x.shape(1, 1, 499, 0, false);
-            t.due("the dearest of three", x.most(0, 0, 1, 1), 500);
-            x.crack(0, 0, true);
-            t.due("it fits none", x.most(0, 0, 1, 1), 0);
-            everyShapeTurned(t);
-        });
+        e.test(9, "SAWING a BLOCK: it is a pipe of a SHAPE that it FITS (its PRICE),", SawEdges::pipeOfAShape);
         e.test(9, "or waste (0),", t -> {
             BurlPipes x = board(8, 8);
             t.due("without shapes", x.most(0, 0, 8, 8), 0);
@@ -40,6 +28,20 @@ final class SawEdges {
         e.test(9, "or it is cut straight through into two, each SAWN on.", SawEdges::straightThrough);
         e.test(9, "MOST: the greatest sum that can be had.", SawEdges::greatestSum);
         e.test(9, "MOST of a BLOCK. BAD.", t -> noBlock(t, (x, at) -> x.most(at[0], at[1], at[2], at[3])));
+    }
+
+    private static void pipeOfAShape(Edges e) {
+        BurlPipes x = board(1, 1);
+        e.due("no shape", x.most(0, 0, 1, 1), 0);
+        x.shape(1, 1, 1, 0, false);
+        e.due("the least price", x.most(0, 0, 1, 1), 1);
+        x.shape(1, 1, 500, 0, false);
+        e.due("the greatest price", x.most(0, 0, 1, 1), 500);
+        x.shape(1, 1, 499, 0, false);
+        e.due("the dearest of three", x.most(0, 0, 1, 1), 500);
+        x.crack(0, 0, true);
+        e.due("it fits none", x.most(0, 0, 1, 1), 0);
+        everyShapeTurned(e);
     }
 
     private static void everyShapeTurned(Edges e) {
@@ -117,38 +119,43 @@ final class SawEdges {
     }
 
     private static void runCut(Edges e) {
-        e.test(10, "THE SAWING: for a BLOCK with MOST: a SHAPE that has it (the least number),", t -> {
-            BurlPipes x = board(2, 1);
-            x.shape(1, 1, 5, 0, false);
-            x.shape(2, 1, 9, 0, false);
-            t.due("a shape that has one less", x.cut(0, 0, 2, 1), 101);
-            x.shape(2, 1, 10, 1, false);
-            t.due("one that does not fit", x.cut(0, 0, 2, 1), 101);
-            x.shape(2, 1, 10, 0, false);
-            t.due("one as good as the cut", x.cut(0, 0, 2, 1), 3);
-            x.shape(1, 2, 10, 0, true);
-            t.due("another as good behind it", x.cut(0, 0, 2, 1), 3);
-            x.shape(2, 1, 11, 0, false);
-            t.due("a better one behind it", x.cut(0, 0, 2, 1), 5);
-            BurlPipes y = State.FULL.make();
-            y.burl(8, 8);
-            t.due("shape 0 of a square", y.cut(7, 7, 1, 1), 0);
-        });
-        e.test(10, "else waste, if MOST is 0,", t -> {
-            BurlPipes x = board(8, 8);
-            t.due("all of it", x.cut(0, 0, 8, 8), -5);
-            t.due("a square", x.cut(7, 7, 1, 1), -5);
-            x.shape(2, 2, 1, 0, false);
-            t.due("too narrow", x.cut(0, 0, 1, 8), -5);
-            t.due("too low", x.cut(0, 0, 8, 1), -5);
-            t.due("just wide enough", x.cut(0, 0, 2, 3), 201);
-        });
-        e.test(10, "else the first cut that has it: down (at x 1, 2, .. from its left side), then across (at y 1, 2, ..);",
+        e.test(10, "THE SAWING: for a BLOCK with MOST: a SHAPE that has it (the least number),", SawEdges::leastNumber);
+        e.test(10, "else waste, if MOST is 0,", SawEdges::wasteIfNothing);
+        e.test(10, "else the first cut that has it: down (at x 1, 2, .. from its left side), then across (at y 1,"
+                + " 2, ..);",
                 SawEdges::firstCut);
         e.test(10, "so for the left, then the right (upper, then lower) part.", SawEdges::partsAreSawnAlike);
         e.test(10, "What is done with a BLOCK by THE SAWING of it: its SHAPE; -5: waste; 100 and k: cut down,"
                 + " k SQUARES to the left; 200 and k: cut across, k above.", SawEdges::allCuts);
         e.test(10, "BAD.", t -> noBlock(t, (x, at) -> x.cut(at[0], at[1], at[2], at[3])));
+    }
+
+    private static void leastNumber(Edges e) {
+        BurlPipes x = board(2, 1);
+        x.shape(1, 1, 5, 0, false);
+        x.shape(2, 1, 9, 0, false);
+        e.due("a shape that has one less", x.cut(0, 0, 2, 1), 101);
+        x.shape(2, 1, 10, 1, false);
+        e.due("one that does not fit", x.cut(0, 0, 2, 1), 101);
+        x.shape(2, 1, 10, 0, false);
+        e.due("one as good as the cut", x.cut(0, 0, 2, 1), 3);
+        x.shape(1, 2, 10, 0, true);
+        e.due("another as good behind it", x.cut(0, 0, 2, 1), 3);
+        x.shape(2, 1, 11, 0, false);
+        e.due("a better one behind it", x.cut(0, 0, 2, 1), 5);
+        BurlPipes y = State.FULL.make();
+        y.burl(8, 8);
+        e.due("shape 0 of a square", y.cut(7, 7, 1, 1), 0);
+    }
+
+    private static void wasteIfNothing(Edges e) {
+        BurlPipes x = board(8, 8);
+        e.due("all of it", x.cut(0, 0, 8, 8), -5);
+        e.due("a square", x.cut(7, 7, 1, 1), -5);
+        x.shape(2, 2, 1, 0, false);
+        e.due("too narrow", x.cut(0, 0, 1, 8), -5);
+        e.due("too low", x.cut(0, 0, 8, 1), -5);
+        e.due("just wide enough", x.cut(0, 0, 2, 3), 201);
     }
 
     private static void firstCut(Edges e) {
@@ -231,25 +238,7 @@ final class SawEdges {
 
     private static void runSawn(Edges e) {
         e.test(11, "THE SAWING of all THE BURL: 0 MOST, 1 pipes, 2 cuts, 3 SQUARES of waste,", SawEdges::nothingOrAll);
-        e.test(11, "10 and s: pipes of SHAPE s.", t -> {
-            BurlPipes x = board(8, 1);
-            for (int s = 0; s < 8; s++) {
-                t.due("no shape " + s, x.sawn(10 + s), -1);
-                x.shape(1, 1, 1, s, false);
-            }
-            for (int s = 0; s < 8; s++) {
-                t.due("shape " + s, x.sawn(10 + s), s == 0 ? 8 : 0);
-            }
-            t.due("there is no shape 8", x.sawn(18), -1);
-            BurlPipes y = board(8, 1);
-            for (int s = 0; s < 8; s++) {
-                y.shape(1, 1, s + 1, s + 1, false);
-                y.grain(s, 0, s + 1);
-            }
-            for (int s = 0; s < 8; s++) {
-                t.due("one of shape " + s, y.sawn(10 + s), 1);
-            }
-        });
+        e.test(11, "10 and s: pipes of SHAPE s.", SawEdges::pipesOfEachShape);
         e.test(11, "BAD.", t -> {
             for (State state : State.values()) {
                 int top = 10 + state.shapes();
@@ -257,6 +246,26 @@ final class SawEdges {
                         x -> x.sawn(18), x -> x.sawn(Integer.MIN_VALUE), x -> x.sawn(Integer.MAX_VALUE));
             }
         });
+    }
+
+    private static void pipesOfEachShape(Edges e) {
+        BurlPipes x = board(8, 1);
+        for (int s = 0; s < 8; s++) {
+            e.due("no shape " + s, x.sawn(10 + s), -1);
+            x.shape(1, 1, 1, s, false);
+        }
+        for (int s = 0; s < 8; s++) {
+            e.due("shape " + s, x.sawn(10 + s), s == 0 ? 8 : 0);
+        }
+        e.due("there is no shape 8", x.sawn(18), -1);
+        BurlPipes y = board(8, 1);
+        for (int s = 0; s < 8; s++) {
+            y.shape(1, 1, s + 1, s + 1, false);
+            y.grain(s, 0, s + 1);
+        }
+        for (int s = 0; s < 8; s++) {
+            e.due("one of shape " + s, y.sawn(10 + s), 1);
+        }
     }
 
     private static void nothingOrAll(Edges e) {
@@ -284,23 +293,8 @@ final class SawEdges {
     }
 
     private static void runCosts(Edges e) {
-        e.test(12, "How much less MOST of THE BURL were with a CRACK in a SQUARE (0, where it has one).", t -> {
-            BurlPipes x = board(8, 8);
-            x.shape(8, 8, 500, 0, false);
-            x.shape(1, 1, 7, 0, false);
-            for (int i = 0; i < 64; i += 9) {
-                t.due("square " + i, x.costs(i % 8, i / 8), 500 - 63 * 7);
-            }
-            t.due("nothing cracked by it", x.count(2), 0);
-            t.due("no act of it", x.count(9), 0);
-            x.crack(7, 7, true);
-            t.due("where it has one", x.costs(7, 7), 0);
-            t.due("beside it", x.costs(6, 7), 7);
-            BurlPipes y = board(1, 1);
-            t.due("without shapes", y.costs(0, 0), 0);
-            y.shape(1, 1, 500, 0, false);
-            t.due("all there is", y.costs(0, 0), 500);
-        });
+        e.test(12, "How much less MOST of THE BURL were with a CRACK in a SQUARE (0, where it has one).",
+                SawEdges::crackCosts);
         e.test(12, "BAD.", t -> {
             for (State state : State.values()) {
                 t.beside(state, 0, state.wide - 1, -1, (x, v) -> x.costs(v, 0));
@@ -309,6 +303,24 @@ final class SawEdges {
                 t.unchanged(state, x -> x.costs(state.wide - 1, 0));
             }
         });
+    }
+
+    private static void crackCosts(Edges e) {
+        BurlPipes x = board(8, 8);
+        x.shape(8, 8, 500, 0, false);
+        x.shape(1, 1, 7, 0, false);
+        for (int i = 0; i < 64; i += 9) {
+            e.due("square " + i, x.costs(i % 8, i / 8), 500 - 63 * 7);
+        }
+        e.due("nothing cracked by it", x.count(2), 0);
+        e.due("no act of it", x.count(9), 0);
+        x.crack(7, 7, true);
+        e.due("where it has one", x.costs(7, 7), 0);
+        e.due("beside it", x.costs(6, 7), 7);
+        BurlPipes y = board(1, 1);
+        e.due("without shapes", y.costs(0, 0), 0);
+        y.shape(1, 1, 500, 0, false);
+        e.due("all there is", y.costs(0, 0), 500);
     }
 
     private static void runGains(Edges e) {

@@ -27,26 +27,8 @@ final class SheetsEdges {
     }
 
     private static void runSheet(Edges e) {
-        e.test(36, "SHEETS 0 to 3 are rows of BYTES (lane 0), SHORTS (1), INTS (2)", t -> {
-            t.beside(0, 3, -1, (x, v) -> x.sheet(v, 0, 1));
-            t.taken(State.NEW, 0, 3, 1, (x, v) -> x.sheet(v, 0, 1));
-            t.beside(0, 2, -1, (x, v) -> x.sheet(0, v, 1));
-            t.taken(State.NEW, 0, 2, 1, (x, v) -> x.sheet(0, v, 1));
-            int[] lowest = {256, 65536};
-            for (int lane = 0; lane < 3; lane++) {
-                t.due("as wide as a byte, lane " + lane, cell(lane, lowest[0] + 1), lane == 0 ? 1 : -100);
-                t.due("as wide as a short, lane " + lane, cell(lane, lowest[1] + 1), lane == 2 ? -100 : 1);
-            }
-        });
-        e.test(36, "with 0 to 64 CELLS,", t -> {
-            t.taken(State.NEW, 0, 64, 1, (x, v) -> x.sheet(0, 0, v));
-            t.taken(State.NEW, 0, 64, 1, (x, v) -> x.sheet(0, 0, v) + x.count(5) - v);
-            for (int n : new int[] {0, 1, 63, 64}) {
-                BurlPipes x = sheet(1, 1, 2, n);
-                t.due("the last cell of " + n, x.lay(0, n - 1, 0), n == 0 ? -12 : 1);
-                t.due("behind it", x.lay(0, n, 0), -12);
-            }
-        });
+        e.test(36, "SHEETS 0 to 3 are rows of BYTES (lane 0), SHORTS (1), INTS (2)", SheetsEdges::lanes);
+        e.test(36, "with 0 to 64 CELLS,", SheetsEdges::cellsOfASheet);
         e.test(36, "or nothing (at first).", t -> {
             t.due("at first", new BurlPipes().count(5), -4);
             t.due("no cells are not nothing", sheet(1, 1, 0, 0).count(5), 0);
@@ -59,15 +41,41 @@ final class SheetsEdges {
                 t.refused(state, -14, x -> x.sheet(0, 0, -1), x -> x.sheet(3, 2, MIN), x -> x.sheet(1, 1, -64));
             }
         });
-        e.test(36, "A FAULT is what the machine finds: 1 NULL (nothing), 2 INDEX, 3 CAST (another lane), 4 SIZE (below 0).", t -> {
-            BurlPipes x = new BurlPipes();
-            t.due("null", x.lay(0, 0, 0), -10 - 1);
-            t.due("size", x.sheet(0, 0, -1), -10 - 4);
-            t.due("null still", x.draw(0, 0, 0), -10 - 1);
-            x.sheet(0, 0, 1);
-            t.due("index", x.lay(0, 1, 0), -10 - 2);
-            t.due("cast", x.draw(0, 1, 0), -10 - 3);
-        });
+        e.test(36, "A FAULT is what the machine finds: 1 NULL (nothing), 2 INDEX, 3 CAST (another lane), 4 SIZE"
+                + " (below 0).",
+                SheetsEdges::eachFault);
+    }
+
+    private static void lanes(Edges e) {
+        e.beside(0, 3, -1, (x, v) -> x.sheet(v, 0, 1));
+        e.taken(State.NEW, 0, 3, 1, (x, v) -> x.sheet(v, 0, 1));
+        e.beside(0, 2, -1, (x, v) -> x.sheet(0, v, 1));
+        e.taken(State.NEW, 0, 2, 1, (x, v) -> x.sheet(0, v, 1));
+        int[] lowest = {256, 65536};
+        for (int lane = 0; lane < 3; lane++) {
+            e.due("as wide as a byte, lane " + lane, cell(lane, lowest[0] + 1), lane == 0 ? 1 : -100);
+            e.due("as wide as a short, lane " + lane, cell(lane, lowest[1] + 1), lane == 2 ? -100 : 1);
+        }
+    }
+
+    private static void cellsOfASheet(Edges e) {
+        e.taken(State.NEW, 0, 64, 1, (x, v) -> x.sheet(0, 0, v));
+        e.taken(State.NEW, 0, 64, 1, (x, v) -> x.sheet(0, 0, v) + x.count(5) - v);
+        for (int n : new int[] {0, 1, 63, 64}) {
+            BurlPipes x = sheet(1, 1, 2, n);
+            e.due("the last cell of " + n, x.lay(0, n - 1, 0), n == 0 ? -12 : 1);
+            e.due("behind it", x.lay(0, n, 0), -12);
+        }
+    }
+
+    private static void eachFault(Edges e) {
+        BurlPipes x = new BurlPipes();
+        e.due("null", x.lay(0, 0, 0), -10 - 1);
+        e.due("size", x.sheet(0, 0, -1), -10 - 4);
+        e.due("null still", x.draw(0, 0, 0), -10 - 1);
+        x.sheet(0, 0, 1);
+        e.due("index", x.lay(0, 1, 0), -10 - 2);
+        e.due("cast", x.draw(0, 1, 0), -10 - 3);
     }
 
     private static void newRow(Edges e) {
@@ -95,17 +103,19 @@ final class SheetsEdges {
     private static void runLay(Edges e) {
         e.test(37, "CELL i of a SHEET becomes v (its lowest bits): 1.", SheetsEdges::lowestBits);
         e.test(37, "BAD: k;", t -> t.beside(0, 3, -1, (x, v) -> x.lay(v, 0, 5)));
-        e.test(37, "-10 less the FAULT: NULL, INDEX.", t -> {
-            for (int sheet = 0; sheet < 4; sheet++) {
-                int k = sheet;
-                t.refused(State.NEW, -11, x -> x.lay(k, 0, 5), x -> x.lay(k, -1, 5), x -> x.lay(k, MAX, 5));
-                t.beside(State.FULL, 0, 63, -12, (x, v) -> x.lay(k, v, 5));
-            }
-            t.refused(State.LADEN, -11, x -> x.lay(3, 0, 5));
-            t.refused(State.LADEN, -12, x -> x.lay(2, 0, 5), x -> x.lay(2, -1, 5));
-            t.beside(State.LADEN, 0, 14, -12, (x, v) -> x.lay(0, v, 5));
-            t.beside(State.LADEN, 0, 19, -12, (x, v) -> x.lay(1, v, 5));
-        });
+        e.test(37, "-10 less the FAULT: NULL, INDEX.", SheetsEdges::layFaults);
+    }
+
+    private static void layFaults(Edges e) {
+        for (int sheet = 0; sheet < 4; sheet++) {
+            int k = sheet;
+            e.refused(State.NEW, -11, x -> x.lay(k, 0, 5), x -> x.lay(k, -1, 5), x -> x.lay(k, MAX, 5));
+            e.beside(State.FULL, 0, 63, -12, (x, v) -> x.lay(k, v, 5));
+        }
+        e.refused(State.LADEN, -11, x -> x.lay(3, 0, 5));
+        e.refused(State.LADEN, -12, x -> x.lay(2, 0, 5), x -> x.lay(2, -1, 5));
+        e.beside(State.LADEN, 0, 14, -12, (x, v) -> x.lay(0, v, 5));
+        e.beside(State.LADEN, 0, 19, -12, (x, v) -> x.lay(1, v, 5));
     }
 
     private static void lowestBits(Edges e) {
@@ -135,26 +145,29 @@ final class SheetsEdges {
     }
 
     private static void runDraw(Edges e) {
-        e.test(38, "THE BURL (as wide and high as it is) is read of a SHEET taken as of a lane, row by row, each from the"
-                + " left to the right, from CELL f on:", SheetsEdges::rowByRow);
-        e.test(38, "0 to 9 that GRAIN, no CRACK; 10 a CRACK, GRAIN 0: how many CRACKS there are then.", SheetsEdges::cells);
+        e.test(38, "THE BURL (as wide and high as it is) is read of a SHEET taken as of a lane, row by row, each"
+                + " from the left to the right, from CELL f on:", SheetsEdges::rowByRow);
+        e.test(38, "0 to 9 that GRAIN, no CRACK; 10 a CRACK, GRAIN 0: how many CRACKS there are then.",
+                SheetsEdges::cells);
         e.test(38, "BAD: k, lane;", t -> {
             t.beside(0, 3, -1, (x, v) -> x.draw(v, 0, 0));
             t.beside(0, 2, -1, (x, v) -> x.draw(0, v, 0));
         });
         e.test(38, "-10 less the FAULT: NULL, CAST, then CELL by CELL INDEX;", SheetsEdges::drawFaults);
         e.test(38, "-100 less i: CELL f + i is none such;", SheetsEdges::noneSuch);
-        e.test(38, "the first met: then nothing changed.", t -> {
-            for (int at = 0; at < 4; at++) {
-                BurlPipes x = sheet(2, 2, 0, 4 - at);
-                x.lay(0, 3 - at, 11);
-                t.due("a bad cell ahead of the end, from " + at, x.draw(0, 0, 0), -103 + at);
-                t.due("behind it there is none, from " + at, x.draw(0, 0, 4 - at), -12);
-            }
-            t.refused(State.LADEN, -111, x -> x.draw(1, 1, 0));
-            t.refused(State.LADEN, -106, x -> x.draw(1, 1, 5));
-            t.refused(State.LADEN, -12, x -> x.draw(0, 0, 1), x -> x.draw(0, 0, 14));
-        });
+        e.test(38, "the first met: then nothing changed.", SheetsEdges::firstMet);
+    }
+
+    private static void firstMet(Edges e) {
+        for (int at = 0; at < 4; at++) {
+            BurlPipes x = sheet(2, 2, 0, 4 - at);
+            x.lay(0, 3 - at, 11);
+            e.due("a bad cell ahead of the end, from " + at, x.draw(0, 0, 0), -103 + at);
+            e.due("behind it there is none, from " + at, x.draw(0, 0, 4 - at), -12);
+        }
+        e.refused(State.LADEN, -111, x -> x.draw(1, 1, 0));
+        e.refused(State.LADEN, -106, x -> x.draw(1, 1, 5));
+        e.refused(State.LADEN, -12, x -> x.draw(0, 0, 1), x -> x.draw(0, 0, 14));
     }
 
     private static void rowByRow(Edges e) {
@@ -235,16 +248,7 @@ final class SheetsEdges {
 
     private static void runCount(Edges e) {
         String words = "How many: 0 SHAPES, 1 PIPES, 2 CRACKS, 3 SQUARES of THE BURL, 4 LOTS that are OFF,";
-        e.test(39, words, t -> {
-            BurlPipes x = State.FULL.make();
-            int[] due = {8, 12, 5, 64, 6};
-            for (int what = 0; what < due.length; what++) {
-                t.due("full, " + what, x.count(what), due[what]);
-                t.due("new, " + what, new BurlPipes().count(what), what == 3 ? 16 : 0);
-            }
-            x.burl(1, 1);
-            t.due("the least burl", x.count(3), 1);
-        });
+        e.test(39, words, SheetsEdges::fullCounts);
         e.test(39, "5 CELLS of SHEET 0 (NONE: nothing),", t -> {
             t.due("nothing", new BurlPipes().count(5), -4);
             t.due("none", sheet(1, 1, 0, 0).count(5), 0);
@@ -253,38 +257,54 @@ final class SheetsEdges {
             x.sheet(1, 0, 9);
             t.due("another sheet", x.count(5), -4);
         });
-        e.test(39, "6 WORLDS, 7 STOCK, 8 ORDERS, 9 ACTS that can be undone, 10 laws, 11 LIMIT,", t -> {
-            BurlPipes x = State.FULL.make();
-            int[] due = {4, 12, 8, 8, 8, 0};
-            for (int i = 0; i < due.length; i++) {
-                t.due("full, " + (6 + i), x.count(6 + i), due[i]);
-                t.due("new, " + (6 + i), new BurlPipes().count(6 + i), i == 5 ? 5 : 0);
-            }
-            x.end(0);
-            Check.write(x, "limit 50;" + "bar0 1;".repeat(27));
-            t.due("as many laws as a tape can tell", x.laws(), 28);
-            t.due("laws", x.count(10), 28);
-            t.due("limit", x.count(11), 50);
-        });
-        e.test(39, "12 PIPES that are SOLD under a NAME that is not theirs.", t -> {
-            BurlPipes x = new BurlPipes();
-            for (int p = 0; p < 12; p++) {
-                x.pipe(0, 1, 1, 1, 0, 0, p % 3);
-            }
-            t.due("no laws", x.count(12), 0);
-            Check.write(x, "least A 2;");
-            x.laws();
-            t.due("not sold", x.count(12), 0);
-            Check.write(x, "least A 2;second A H;");
-            x.laws();
-            t.due("a third of them", x.count(12), 4);
-            Check.write(x, "least A 2;least B 2;least C 2;second A B;second B C;second C H;least H 1;");
-            x.laws();
-            t.due("all", x.count(12), 12);
-            Check.write(x, "least A 2;second A H;least H 2;second H B;");
-            x.laws();
-            t.due("by two names", x.count(12), 4);
-        });
+        e.test(39, "6 WORLDS, 7 STOCK, 8 ORDERS, 9 ACTS that can be undone, 10 laws, 11 LIMIT,",
+                SheetsEdges::moreCounts);
+        e.test(39, "12 PIPES that are SOLD under a NAME that is not theirs.", SheetsEdges::soldUnderOthers);
         e.test(39, "BAD.", t -> t.beside(0, 12, -1, (x, v) -> x.count(v)));
+    }
+
+    private static void fullCounts(Edges e) {
+        BurlPipes x = State.FULL.make();
+        int[] due = {8, 12, 5, 64, 6};
+        for (int what = 0; what < due.length; what++) {
+            e.due("full, " + what, x.count(what), due[what]);
+            e.due("new, " + what, new BurlPipes().count(what), what == 3 ? 16 : 0);
+        }
+        x.burl(1, 1);
+        e.due("the least burl", x.count(3), 1);
+    }
+
+    private static void moreCounts(Edges e) {
+        BurlPipes x = State.FULL.make();
+        int[] due = {4, 12, 8, 8, 8, 0};
+        for (int i = 0; i < due.length; i++) {
+            e.due("full, " + (6 + i), x.count(6 + i), due[i]);
+            e.due("new, " + (6 + i), new BurlPipes().count(6 + i), i == 5 ? 5 : 0);
+        }
+        x.end(0);
+        Check.write(x, "limit 50;" + "bar0 1;".repeat(27));
+        e.due("as many laws as a tape can tell", x.laws(), 28);
+        e.due("laws", x.count(10), 28);
+        e.due("limit", x.count(11), 50);
+    }
+
+    private static void soldUnderOthers(Edges e) {
+        BurlPipes x = new BurlPipes();
+        for (int p = 0; p < 12; p++) {
+            x.pipe(0, 1, 1, 1, 0, 0, p % 3);
+        }
+        e.due("no laws", x.count(12), 0);
+        Check.write(x, "least A 2;");
+        x.laws();
+        e.due("not sold", x.count(12), 0);
+        Check.write(x, "least A 2;second A H;");
+        x.laws();
+        e.due("a third of them", x.count(12), 4);
+        Check.write(x, "least A 2;least B 2;least C 2;second A B;second B C;second C H;least H 1;");
+        x.laws();
+        e.due("all", x.count(12), 12);
+        Check.write(x, "least A 2;second A H;least H 2;second H B;");
+        x.laws();
+        e.due("by two names", x.count(12), 4);
     }
 }

@@ -68,7 +68,8 @@ enum State {
         x.order(0, 8, 10);
         x.order(1, 5, 30);
         x.order(0, 0, 5);
-        Check.write(x, "stamp 1 1850 1900;stamp 2 1880 1950;bar 1 3;limit 6;least A 4;least B 3;second A B;second B C;");
+        Check.write(x, "stamp 1 1850 1900;stamp 2 1880 1950;bar 1 3;limit 6;least A 4;least B 3;second A B;"
+                + "second B C;");
         x.laws();
         x.pipe(0, 5, 3, 4, 6, 4, 0);
         x.pipe(0, 1, 1, 2, 0, 14, 0);
@@ -91,21 +92,25 @@ enum State {
             x.crack(i, 7 - i, true);
             x.grain(7 - i, i, 9 - i);
         }
+        // On a burl of its size each shape is dearer than all that could be cut, so that its price can be seen.
         for (int s = 0; s < 8; s++) {
-            x.shape(1 + s % 3, 1 + s / 2, 500 - 40 * s, s % 4, s % 2 == 1);
+            int squares = (s + 1) * (1 + s % 2);
+            x.shape(s + 1, 1 + s % 2, squares * (squares + 1), s % 4, s % 4 == 1);
         }
         for (int i = 0; i < 4; i++) {
             x.world();
             x.doubt(i, i, i, true);
             x.doubt(i, 7, 7 - i, true);
         }
+        // Each order has a block that will do in some years, so that its age and its pay can be seen.
         for (int k = 0; k < 12; k++) {
-            x.store(1 + k % 3, 1 + k / 4, k % 10, 99 - k * 9);
+            x.store(k % 8 + 1, 1 + k % 2, 9 - k % 5, k < 8 ? 80 + k : k);
         }
         for (int o = 0; o < 8; o++) {
-            x.order(o, 99 - 14 * o, 1000 - 111 * o);
+            x.order(o, 84 + 2 * o, 1000 - 111 * o);
         }
-        Check.write(x, "limit 0;stamp 0 1800 1800;stamp 7 2000 2000;bar 0 7;least A 5;least H 5;second A B;second H A;");
+        Check.write(x, "limit 0;stamp 0 1800 1800;stamp 7 2000 2000;bar 0 7;least A 5;least H 5;second A B;"
+                + "second H A;");
         x.laws();
         for (int p = 0; p < 12; p++) {
             x.pipe(p / 2, p % 6, 5 - p % 4, 5, 1 << p % 8, 9 * p - 50, 7 - p % 8);

@@ -10,17 +10,7 @@ final class StockEdges {
     }
 
     private static void runStock(Edges e) {
-        e.test(17, "STOCK (12):", t -> {
-            BurlPipes x = new BurlPipes();
-            for (int k = 0; k < 12; k++) {
-                t.due("block " + k, x.store(1, 1, 0, k), k);
-                t.due("how many", x.count(7), k + 1);
-            }
-            t.due("a thirteenth", x.store(1, 1, 0, 0), -3);
-            for (int k = 0; k < 12; k++) {
-                t.due("block " + k + " as it came", x.stored(k, 3), k);
-            }
-        });
+        e.test(17, "STOCK (12):", StockEdges::twelveBlocks);
         e.test(17, "BLOCKS put by: w, h,", t -> {
             t.beside(1, 8, -1, (x, v) -> x.store(v, 1, 0, 0));
             t.beside(1, 8, -1, (x, v) -> x.store(1, v, 0, 0));
@@ -41,15 +31,7 @@ final class StockEdges {
             t.refused(State.FULL, -3, x -> x.store(1, 1, 0, 0), x -> x.store(8, 8, 9, 99));
             t.refused(State.LADEN, -1, x -> x.store(0, 0, -1, -1), x -> x.store(9, 9, 10, 100));
         });
-        e.test(18, "Of a BLOCK of STOCK: 0 w, 1 h, 2 GRAIN, 3 AGE,", t -> {
-            BurlPipes x = new BurlPipes();
-            x.store(8, 1, 9, 0);
-            x.store(1, 8, 0, 99);
-            int[][] due = {{8, 1, 9, 0}, {1, 8, 0, 99}};
-            for (int i = 0; i < 8; i++) {
-                t.due("block " + i / 4 + ", " + i % 4, x.stored(i / 4, i % 4), due[i / 4][i % 4]);
-            }
-        });
+        e.test(18, "Of a BLOCK of STOCK: 0 w, 1 h, 2 GRAIN, 3 AGE,", StockEdges::plainStored);
         e.test(18, "4 how many ORDERS it does for.", StockEdges::doesForHowMany);
         e.test(18, "BAD.", t -> {
             for (State state : State.values()) {
@@ -59,6 +41,28 @@ final class StockEdges {
             t.beside(State.FULL, 0, 4, -1, (x, v) -> x.stored(11, v));
         });
         e.test(19, "All STOCK is a year older (99 at most): how many BLOCKS there are.", StockEdges::ages);
+    }
+
+    private static void twelveBlocks(Edges e) {
+        BurlPipes x = new BurlPipes();
+        for (int k = 0; k < 12; k++) {
+            e.due("block " + k, x.store(1, 1, 0, k), k);
+            e.due("how many", x.count(7), k + 1);
+        }
+        e.due("a thirteenth", x.store(1, 1, 0, 0), -3);
+        for (int k = 0; k < 12; k++) {
+            e.due("block " + k + " as it came", x.stored(k, 3), k);
+        }
+    }
+
+    private static void plainStored(Edges e) {
+        BurlPipes x = new BurlPipes();
+        x.store(8, 1, 9, 0);
+        x.store(1, 8, 0, 99);
+        int[][] due = {{8, 1, 9, 0}, {1, 8, 0, 99}};
+        for (int i = 0; i < 8; i++) {
+            e.due("block " + i / 4 + ", " + i % 4, x.stored(i / 4, i % 4), due[i / 4][i % 4]);
+        }
     }
 
     private static void doesForHowMany(Edges e) {
@@ -99,26 +103,8 @@ final class StockEdges {
     }
 
     private static void runOrders(Edges e) {
-        e.test(20, "ORDERS (8):", t -> {
-            BurlPipes x = new BurlPipes();
-            x.shape(1, 1, 1, 0, false);
-            for (int o = 0; o < 8; o++) {
-                t.due("order " + o, x.order(0, 0, 1), o);
-                t.due("how many", x.count(8), o + 1);
-            }
-            t.due("a ninth", x.order(0, 0, 1), -3);
-        });
-        e.test(20, "a SHAPE, a least AGE (0 to 99), a PAY (1 to 1000).", t -> {
-            for (State state : State.values()) {
-                t.beside(state, 0, state.shapes() - 1, -1, (x, v) -> x.order(v, 0, 1));
-            }
-            t.taken(State.LADEN, 0, 2, 3, (x, v) -> x.order(v, 0, 1));
-            t.beside(0, 99, -1, (x, v) -> x.order(0, v, 1));
-            t.taken(State.LADEN, 0, 99, 3, (x, v) -> x.order(0, v, 1));
-            t.beside(1, 1000, -1, (x, v) -> x.order(0, 0, v));
-            t.taken(State.LADEN, 1, 1000, 3, (x, v) -> x.order(0, 0, v));
-            t.taken(State.NEW, 1, 1000, 0, (x, v) -> paid(x, v) - v);
-        });
+        e.test(20, "ORDERS (8):", StockEdges::eightOrders);
+        e.test(20, "a SHAPE, a least AGE (0 to 99), a PAY (1 to 1000).", StockEdges::orderBounds);
         e.test(20, "An ORDER: its number.", t -> {
             t.due("behind three", State.LADEN.make().order(0, 0, 1), 3);
             BurlPipes x = State.LADEN.make();
@@ -138,22 +124,46 @@ final class StockEdges {
                 t.due("grain " + grain + " for 5", does(grain, 0, 5, 0), grain >= 5 ? 1 : 0);
             }
         });
-        e.test(21, "its AGE at least that told.", t -> {
-            int[] least = {0, 1, 50, 98, 99};
-            for (int told : least) {
-                for (int age : least) {
-                    t.due("age " + age + " for " + told, does(0, age, 0, told), age >= told ? 1 : 0);
-                }
+        e.test(21, "its AGE at least that told.", StockEdges::agesDo);
+    }
+
+    private static void eightOrders(Edges e) {
+        BurlPipes x = new BurlPipes();
+        x.shape(1, 1, 1, 0, false);
+        for (int o = 0; o < 8; o++) {
+            e.due("order " + o, x.order(0, 0, 1), o);
+            e.due("how many", x.count(8), o + 1);
+        }
+        e.due("a ninth", x.order(0, 0, 1), -3);
+    }
+
+    private static void orderBounds(Edges e) {
+        for (State state : State.values()) {
+            e.beside(state, 0, state.shapes() - 1, -1, (x, v) -> x.order(v, 0, 1));
+        }
+        e.taken(State.LADEN, 0, 2, 3, (x, v) -> x.order(v, 0, 1));
+        e.beside(0, 99, -1, (x, v) -> x.order(0, v, 1));
+        e.taken(State.LADEN, 0, 99, 3, (x, v) -> x.order(0, v, 1));
+        e.beside(1, 1000, -1, (x, v) -> x.order(0, 0, v));
+        e.taken(State.LADEN, 1, 1000, 3, (x, v) -> x.order(0, 0, v));
+        e.taken(State.NEW, 1, 1000, 0, (x, v) -> paid(x, v) - v);
+    }
+
+    private static void agesDo(Edges e) {
+        int[] least = {0, 1, 50, 98, 99};
+        for (int told : least) {
+            for (int age : least) {
+                e.due("age " + age + " for " + told, does(0, age, 0, told), age >= told ? 1 : 0);
             }
-            BurlPipes x = new BurlPipes();
-            x.shape(1, 1, 1, 0, false);
-            x.store(1, 1, 0, 97);
-            x.order(0, 99, 1);
-            x.age();
-            t.due("a year too young", x.filled(1), 0);
-            x.age();
-            t.due("old enough", x.filled(1), 1);
-        });
+        }
+        BurlPipes x = new BurlPipes();
+        x.shape(1, 1, 1, 0, false);
+        x.store(1, 1, 0, 97);
+        x.order(0, 99, 1);
+        x.age();
+        e.due("a year too young", x.filled(1), 0);
+        x.age();
+        e.due("old enough", x.filled(1), 1);
     }
 
     private static int paid(BurlPipes x, int pay) {
@@ -196,47 +206,14 @@ final class StockEdges {
     }
 
     private static void runFilled(Edges e) {
-        e.test(21, "FILLED: each ORDER gets one BLOCK that does for it, or none, no BLOCK for two,", t -> {
-            BurlPipes x = new BurlPipes();
-            x.shape(1, 1, 1, 0, false);
-            x.order(0, 0, 5);
-            t.due("no stock", x.filled(10), -4);
-            x.store(2, 2, 0, 0);
-            t.due("none that does", x.filled(10), -4);
-            x.store(1, 1, 0, 0);
-            t.due("one that does", x.filled(10), 1);
-            x.store(1, 1, 0, 0);
-            t.due("one order gets one of two", x.filled(1), 1);
-            for (int o = 1; o < 8; o++) {
-                x.order(0, 0, 5);
-            }
-            t.due("two blocks for eight orders", x.filled(1), 2);
-            t.due("and their pay", x.filled(0), 10);
-            for (int o = 2; o < 8; o++) {
-                t.due("none for order " + o, x.filled(10 + o), -4);
-            }
-            t.due("other blocks for order 1", x.filled(11), 2);
-        });
+        e.test(21, "FILLED: each ORDER gets one BLOCK that does for it, or none, no BLOCK for two,",
+                StockEdges::noBlockForTwo);
         e.test(21, "with the greatest sum of PAYS;", StockEdges::greatestSum);
-        e.test(21, "of several such that in which ORDER 0 gets the least BLOCK (none behind all), then ORDER 1, and so on.",
+        e.test(21, "of several such that in which ORDER 0 gets the least BLOCK (none behind all), then ORDER 1, and"
+                + " so on.",
                 StockEdges::leastBlocks);
-        e.test(21, "FILLED: 0 the sum of PAYS, 1 how many ORDERS get a BLOCK, 10 and o: the BLOCK of ORDER o (NONE).", t -> {
-            t.due("no orders: sum", new BurlPipes().filled(0), 0);
-            t.due("no orders: how many", new BurlPipes().filled(1), 0);
-            BurlPipes x = new BurlPipes();
-            x.shape(1, 1, 1, 0, false);
-            for (int i = 0; i < 12; i++) {
-                x.store(1, 1, 0, 0);
-                x.order(0, 0, 1000);
-            }
-            t.due("all of eight", x.filled(1), 8);
-            t.due("the greatest sum there is", x.filled(0), 8000);
-            for (int o = 0; o < 8; o++) {
-                t.due("the block of order " + o, x.filled(10 + o), o);
-            }
-            t.unchanged(State.LADEN, y -> y.filled(0));
-            t.unchanged(State.FULL, y -> y.filled(10));
-        });
+        e.test(21, "FILLED: 0 the sum of PAYS, 1 how many ORDERS get a BLOCK, 10 and o: the BLOCK of ORDER o (NONE).",
+                StockEdges::allFilled);
         e.test(21, "BAD.", t -> {
             for (State state : State.values()) {
                 int top = 10 + state.orders();
@@ -244,6 +221,46 @@ final class StockEdges {
                         x -> x.filled(18), x -> x.filled(Integer.MIN_VALUE), x -> x.filled(Integer.MAX_VALUE));
             }
         });
+    }
+
+    private static void noBlockForTwo(Edges e) {
+        BurlPipes x = new BurlPipes();
+        x.shape(1, 1, 1, 0, false);
+        x.order(0, 0, 5);
+        e.due("no stock", x.filled(10), -4);
+        x.store(2, 2, 0, 0);
+        e.due("none that does", x.filled(10), -4);
+        x.store(1, 1, 0, 0);
+        e.due("one that does", x.filled(10), 1);
+        x.store(1, 1, 0, 0);
+        e.due("one order gets one of two", x.filled(1), 1);
+        for (int o = 1; o < 8; o++) {
+            x.order(0, 0, 5);
+        }
+        e.due("two blocks for eight orders", x.filled(1), 2);
+        e.due("and their pay", x.filled(0), 10);
+        for (int o = 2; o < 8; o++) {
+            e.due("none for order " + o, x.filled(10 + o), -4);
+        }
+        e.due("other blocks for order 1", x.filled(11), 2);
+    }
+
+    private static void allFilled(Edges e) {
+        e.due("no orders: sum", new BurlPipes().filled(0), 0);
+        e.due("no orders: how many", new BurlPipes().filled(1), 0);
+        BurlPipes x = new BurlPipes();
+        x.shape(1, 1, 1, 0, false);
+        for (int i = 0; i < 12; i++) {
+            x.store(1, 1, 0, 0);
+            x.order(0, 0, 1000);
+        }
+        e.due("all of eight", x.filled(1), 8);
+        e.due("the greatest sum there is", x.filled(0), 8000);
+        for (int o = 0; o < 8; o++) {
+            e.due("the block of order " + o, x.filled(10 + o), o);
+        }
+        e.unchanged(State.LADEN, y -> y.filled(0));
+        e.unchanged(State.FULL, y -> y.filled(10));
     }
 
     private static void greatestSum(Edges e) {
@@ -315,8 +332,8 @@ final class StockEdges {
     }
 
     private static void runDeliver(Edges e) {
-        e.test(22, "As FILLED, ORDERS go out with their BLOCKS: both go (those behind them get less numbers): the sum of"
-                + " PAYS.", t -> {
+        e.test(22, "As FILLED, ORDERS go out with their BLOCKS: both go (those behind them get less numbers): the"
+                + " sum of PAYS.", t -> {
             t.unchanged(State.NEW, x -> t.due("nothing at all", x.deliver(), 0));
             onlyOneSide(t);
             firstOrLastGoes(t);

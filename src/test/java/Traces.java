@@ -151,13 +151,21 @@ final class Traces {
             add(fits);
             size = fits == 1 ? at : size;
         }
-        for (int v = 0; v <= 9 && size >= 0; v++) {
-            x.grain(0, 0, v);
-            add(x.fits(0, 0, size % SIDE + 1, size / SIDE + 1, s));
+        if (size >= 0) {
+            askSized(x, s, size % SIDE + 1, size / SIDE + 1);
         }
+        close();
+    }
+
+    private void askSized(BurlPipes x, int s, int w, int h) {
+        for (int v = 0; v <= 9; v++) {
+            x.grain(0, 0, v);
+            add(x.fits(0, 0, w, h, s));
+        }
+        x.burl(w, h);
+        x.draw(0, 0, 0);
         add(x.gains(s, 500));
         add(x.gains(s, 1));
-        close();
     }
 
     private void askStock() {

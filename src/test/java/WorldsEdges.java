@@ -3,15 +3,7 @@ final class WorldsEdges {
     private WorldsEdges() { }
 
     static void run(Edges e) {
-        e.test(14, "WORLDS (4)", t -> {
-            BurlPipes x = new BurlPipes();
-            for (int i = 0; i < 4; i++) {
-                t.due("how many", x.count(6), i);
-                t.due("world " + i, x.world(), i);
-            }
-            t.due("a fifth", x.world(), -3);
-            t.due("four", x.count(6), 4);
-        });
+        e.test(14, "WORLDS (4)", WorldsEdges::fourWorlds);
         e.test(14, "have CRACKS of their own (SQUARES), besides those that THE BURL has.", WorldsEdges::ownCracks);
         e.test(14, "A WORLD without CRACKS: its number.", WorldsEdges::newWorld);
         e.test(14, "FULL.", t -> t.refused(State.FULL, -3, BurlPipes::world, BurlPipes::world));
@@ -20,17 +12,28 @@ final class WorldsEdges {
         e.test(15, "(burl() leaves no WORLDS.)", WorldsEdges::burlLeavesNone);
         e.test(16, "LATE: the sum over all WORLDS of MOST of THE BURL with the CRACKS of both.", WorldsEdges::late);
         e.test(16, "EARLY: as MOST, but that a pipe of a SHAPE of a BLOCK brings its PRICE for each WORLD in which the"
-                + " BLOCK FITS it (with the CRACKS of both), and 0 in others: the greatest sum that can be had by one way"
+                + " BLOCK FITS it (with the CRACKS of both), and 0 in others: the greatest sum that can be had by"
+                + " one way"
                 + " to saw for all.", WorldsEdges::early);
         e.test(16, "0 LATE, 1 EARLY, 2 LATE less EARLY,", WorldsEdges::lateLessEarly);
-        e.test(16, "3 what EARLY does with all of THE BURL (as cut(): a SHAPE that brings it, waste, if it is 0, else the"
-                + " first cut that does),", WorldsEdges::earlyDeed);
+        e.test(16, "3 what EARLY does with all of THE BURL (as cut(): a SHAPE that brings it, waste, if it is 0,"
+                + " else the first cut that does),", WorldsEdges::earlyDeed);
         e.test(16, "4 the least MOST of any WORLD, 5 the greatest.", WorldsEdges::leastAndGreatest);
         e.test(16, "BAD; STATE: there are no WORLDS.", t -> {
             t.beside(0, 5, -1, (x, v) -> x.choose(v));
             t.refused(State.NEW, -2, x -> x.choose(0), x -> x.choose(1), x -> x.choose(2), x -> x.choose(3),
                     x -> x.choose(4), x -> x.choose(5));
         });
+    }
+
+    private static void fourWorlds(Edges e) {
+        BurlPipes x = new BurlPipes();
+        for (int i = 0; i < 4; i++) {
+            e.due("how many", x.count(6), i);
+            e.due("world " + i, x.world(), i);
+        }
+        e.due("a fifth", x.world(), -3);
+        e.due("four", x.count(6), 4);
     }
 
     private static BurlPipes worlds(int w, int h, int howMany) {

@@ -223,7 +223,26 @@ final class StockEdges {
         });
     }
 
+    // Three blocks do for four of the orders: one that moves on may not push out another that has moved before.
+    private static void fourOrdersOfFive(Edges e) {
+        BurlPipes x = new BurlPipes();
+        int[][] blocks = {{7, 3}, {4, 8}, {3, 4}, {5, 1}, {3, 2}, {1, 1}};
+        for (int[] block : blocks) {
+            x.store(1, 1, block[0], block[1]);
+        }
+        int[][] orders = {{2, 2, 42}, {5, 0, 37}, {1, 7, 4}, {4, 2, 2}, {4, 0, 21}};
+        for (int[] order : orders) {
+            x.order(x.shape(1, 1, 1, order[0], false), order[1], order[2]);
+        }
+        e.due("all but the least paid", x.filled(0), 104);
+        int[] due = {2, 0, 1, -4, 3};
+        for (int o = 0; o < due.length; o++) {
+            e.due("the block of order " + o, x.filled(10 + o), due[o]);
+        }
+    }
+
     private static void noBlockForTwo(Edges e) {
+        fourOrdersOfFive(e);
         BurlPipes x = new BurlPipes();
         x.shape(1, 1, 1, 0, false);
         x.order(0, 0, 5);
